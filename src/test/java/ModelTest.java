@@ -6,7 +6,7 @@ import java.util.function.Supplier;
 /** Random runs of calls (from fixed seeds): the program and PlainPost must answer and throw alike. */
 public final class ModelTest {
     private static final Check check = new Check();
-    private static final int RUNS = 400;
+    private static final int RUNS = 200;
 
     private final Random random;
     private final WhistlePosts post = new WhistlePosts();
