@@ -159,7 +159,7 @@ public final class WhistlePosts {
                 now.takeCoins(roof, number);
                 return true;
             case Script.CUT:
-                return now.isCut(roof, other);
+                return now.cutWay(roof, other);
             default:
                 now.settle(word, number);
                 return true;
@@ -401,7 +401,7 @@ public final class WhistlePosts {
             throw new IllegalStateException("there is no way between the roofs");
         }
         past.keep(now);
-        now.isCut(roof, other);
+        now.cutWay(roof, other);
         return now.ways;
     }
 
@@ -811,7 +811,7 @@ public final class WhistlePosts {
             tuneRows.put(tune, HOPS, 0);
             tuneRows.put(tune, FAR_IN_AIR, 0);
             tunes++;
-            accounts.grow(0, TUNES_SENT, 1);
+            enter(TUNES_SENT, 1);
             return tune;
         }
 
@@ -828,7 +828,8 @@ public final class WhistlePosts {
             enter(COINS_GIVEN, coins);
         }
 
-        boolean isCut(int roof, int other) {
+        /** Cuts the way between two roofs; false, with no change, if there is none. */
+        boolean cutWay(int roof, int other) {
             int way = wayBetween(roof, other);
             if (way == NONE) {
                 return false;

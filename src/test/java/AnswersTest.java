@@ -548,6 +548,8 @@ public final class AnswersTest {
         line.cut(4, 5);
         // b to e, and f to j: 2 by 2 without c to d, but 2 by 3 without g to h
         check.is("in the greater part", line.dearestWay(), 4);
+        WhistlePosts three = Check.loaded("roof a 1 0 0 0;roof b 1 0 0 0;roof c 1 0 0 0;way a b 1;way b c 1;");
+        check.is("either parts 2 by 1", three.dearestWay(), 0);
         WhistlePosts tail = Check.loaded("roof a 1 0 0 0;roof b 1 0 0 0;roof c 1 0 0 0;roof d 1 0 0 0;roof e 1 0 0 0;"
             + "way a b 1;way a c 1;way b c 1;way d e 1;way c d 1;");
         check.is("c to d parts 3 by 2", tail.dearestWay(), 4);
@@ -627,7 +629,8 @@ public final class AnswersTest {
             great.send(0, 1, 1, false);
         }
         great.give(1, 99);
-        isPrinted(great, "a:0/10 abcdef:1098");
+        great.send(1, 0, 1, false);
+        isPrinted(great, "a:0/10 abcdef:1098/1");
     }
 
     private static void printTune() {

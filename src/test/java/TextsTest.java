@@ -15,6 +15,7 @@ public final class TextsTest {
         settingsBeginAnew();
         mostOfAll();
         nobodyIsBusy();
+        nothingIsLeft();
         setupErrors();
         wayErrors();
         failedLoad();
@@ -22,6 +23,7 @@ public final class TextsTest {
         playUntilThrown();
         playMost();
         scriptErrors();
+        spoiledWords();
         errors();
         check.end();
     }
@@ -182,6 +184,27 @@ public final class TextsTest {
         check.areCounts(post, 2, 0, 0, 0, 0, 0, 0, 0, 3, 50, 1, 0, 0, 0);
         check.isRoof(post, 0, "c", 1, 0, 0, 0, 0, 0, 0, 0);
         check.is("no route by ways of old", post.route(0, 1), WhistlePosts.NONE);
+    }
+
+    /** What would come was worked out for a post with tunes, before another one is loaded. */
+    private static void nothingIsLeft() {
+        check.part("4 loadPost, nothing is left");
+        WhistlePosts post = new WhistlePosts();
+        post.send(3, 0, 12345670, true);
+        post.send(0, 3, 1234, true);
+        post.set(8, 9);
+        check.is("ticks", post.growsBy(0, 200), 200);
+        check.is("over mill at 5 and 21", post.arrivesIn(0), 33);
+        check.is("over mill at 11 and 26", post.arrivesIn(1), 31);
+        Check.load(post, Check.PAIR + "dusk 60;");
+        check.areCounts(post, 2, 1, 0, 0, 0, 0, 0, 0, 3, 60, 1, 0, 30, 0);
+        check.areAccounts(post, 0, 0, 0, 0, 0, 0, 0, 0, 0, 0, 0);
+        check.isRoof(post, 0, "a", 8, 9, 0, 10, 0, 0, 1, 0);
+        check.isRoof(post, 1, "b", 8, 9, 0, 20, 0, 0, 1, 0);
+        post.send(0, 1, 12, false);
+        check.isTune(post, 0, 0, 1, 2, 0, 0, -1, 0, 0, 0, 1, 0, 0);
+        check.is("one waits", post.waiting(0, 1), WhistlePosts.NONE);
+        check.is("it goes", post.arrivesIn(0), 3);
     }
 
     private static void isError(String what, String text, int code, int offset) {
@@ -368,6 +391,25 @@ public final class TextsTest {
         isScriptError("a byte of no token", "tick 1;?", WhistlePosts.SYNTAX, 7);
         isScriptError("a long word", "ticktickt 1;", WhistlePosts.SYNTAX, 0);
         isScriptError("no semicolon", "tick 1", WhistlePosts.SYNTAX, 6);
+    }
+
+    /** Each word of the form with one letter that is wrong, or one too many or too few. */
+    private static void spoiledWords() {
+        check.part("4, 5 loadPost and playScript, words");
+        for (String word : new String[] {"roof", "way", "send", "ask", "tick", "give", "cut", "wind", "dusk", "again"}) {
+            for (int i = 0; i < word.length(); i++) {
+                isNoWord(word.substring(0, i) + "x" + word.substring(i + 1));
+            }
+            isNoWord(word + "s");
+            isNoWord(word.substring(1));
+            isNoWord(word.substring(0, word.length() - 1));
+        }
+    }
+
+    private static void isNoWord(String word) {
+        WhistlePosts post = Check.loaded(Check.PAIR);
+        check.isErrorOf(post, word, word + " a b 1;", true, WhistlePosts.SYNTAX, 0);
+        check.isErrorOf(post, word, word + " a b 1;", false, WhistlePosts.SYNTAX, 0);
     }
 
     private static void errors() {
