@@ -38,7 +38,7 @@ public final class AnswersTest {
 
     private static void count() {
         check.part("8 count");
-        WhistlePosts post = Check.loaded(Check.ROW + "wind 0;again 2;dusk 59;");
+        CountedPost post = Check.loaded(Check.ROW + "wind 0;again 2;dusk 59;");
         post.send(0, 1, 1, false);
         post.send(0, 1, 12345670, false);
         post.send(1, 2, 12, false);
@@ -68,7 +68,7 @@ public final class AnswersTest {
 
     private static void account() {
         check.part("9 account");
-        WhistlePosts post = Check.loaded("roof a 1 0 1 100;roof b 2 0 2 100;roof c 3 9 3 5;way a b 9;way b c 9;wind 9;");
+        CountedPost post = Check.loaded("roof a 1 0 1 100;roof b 2 0 2 100;roof c 3 9 3 5;way a b 9;way b c 9;wind 9;");
         post.send(0, 1, 11, false);
         check.areAccounts(post, 0, 1, 0, 0, 0, 0, 0, 0, 0, 0, 0);
         post.tick(12);
@@ -96,7 +96,7 @@ public final class AnswersTest {
 
     private static void nameByte() {
         check.part("10 nameByte");
-        WhistlePosts post = Check.loaded("roof azbycx 1 0 0 0;roof q 1 0 0 0;");
+        CountedPost post = Check.loaded("roof azbycx 1 0 0 0;roof q 1 0 0 0;");
         String name = "azbycx";
         for (int i = 0; i < 6; i++) {
             check.is("byte " + i, post.nameByte(0, i), name.charAt(i));
@@ -114,7 +114,7 @@ public final class AnswersTest {
 
     private static void roof() {
         check.part("11 roof");
-        WhistlePosts post = Check.loaded(Check.ROW);
+        CountedPost post = Check.loaded(Check.ROW);
         check.isRoof(post, 0, "a", 1, 0, 1, 100, 0, 0, 1, 0);
         check.isRoof(post, 1, "b", 2, 0, 2, 100, 0, 0, 2, 0);
         check.isRoof(post, 3, "d", 4, 0, 4, 100, 0, 0, 0, 0);
@@ -149,7 +149,7 @@ public final class AnswersTest {
 
     private static void way() {
         check.part("12 way");
-        WhistlePosts post = new WhistlePosts();
+        CountedPost post = new CountedPost();
         check.isWay(post, 2, 0, 2, 9);
         post.cut(2, 1);
         check.isWay(post, 0, 0, 1, 4);
@@ -168,7 +168,7 @@ public final class AnswersTest {
 
     private static void route() {
         check.part("13 route");
-        WhistlePosts post = new WhistlePosts();
+        CountedPost post = new CountedPost();
         int[][] sums = {{0, 4, 9, 12}, {4, 0, 6, 9}, {9, 6, 0, 3}, {12, 9, 3, 0}};
         for (int from = 0; from < 4; from++) {
             for (int to = 0; to < 4; to++) {
@@ -185,14 +185,14 @@ public final class AnswersTest {
         post.undo();
         check.is("there again", post.route(0, 3), 13);
         check.isThrownForRoofs("route", post::route);
-        WhistlePosts line = Check.loaded(Check.tenRoofs() + Check.ways(9).replace(" 1;", " 9;"));
+        CountedPost line = Check.loaded(Check.tenRoofs() + Check.ways(9).replace(" 1;", " 9;"));
         check.is("the longest", line.route(0, 9), 81);
         check.is("the longest, back", line.route(9, 0), 81);
     }
 
     private static void next() {
         check.part("14 next");
-        WhistlePosts post = new WhistlePosts();
+        CountedPost post = new CountedPost();
         int[][] nexts = {{-1, 1, 2, 2}, {0, -1, 2, 2}, {0, 1, -1, 3}, {2, 2, 2, -1}};
         for (int from = 0; from < 4; from++) {
             for (int to = 0; to < 4; to++) {
@@ -209,21 +209,21 @@ public final class AnswersTest {
     private static void nextOfEven() {
         check.part("14 next, even routes");
         // from a to d over b or over c: 5 each, and c has the smaller number
-        WhistlePosts even = Check.loaded("roof a 1 0 0 0;roof d 1 0 0 0;roof c 1 0 0 0;roof b 1 0 0 0;"
+        CountedPost even = Check.loaded("roof a 1 0 0 0;roof d 1 0 0 0;roof c 1 0 0 0;roof b 1 0 0 0;"
             + "way a b 2;way b d 3;way a c 4;way c d 1;");
         check.is("of two the smaller", even.next(0, 1), 2);
         check.is("and back", even.next(1, 0), 2);
         even.cut(2, 1);
         check.is("the other", even.next(0, 1), 3);
         // the way itself is as long as that over c
-        WhistlePosts same = Check.loaded("roof a 1 0 0 0;roof c 1 0 0 0;roof d 1 0 0 0;way a d 5;way a c 4;way c d 1;");
+        CountedPost same = Check.loaded("roof a 1 0 0 0;roof c 1 0 0 0;roof d 1 0 0 0;way a d 5;way a c 4;way c d 1;");
         check.is("c has the smaller number", same.next(0, 2), 1);
         check.is("a has the smaller number", same.next(2, 0), 0);
     }
 
     private static void tune() {
         check.part("15 tune");
-        WhistlePosts post = Check.loaded("roof a 2 0 1 50;roof b 1 0 2 50;roof c 1 9 3 50;way a b 4;way b c 2;");
+        CountedPost post = Check.loaded("roof a 2 0 1 50;roof b 1 0 2 50;roof c 1 9 3 50;way a b 4;way b c 2;");
         post.send(0, 2, 12345, true);
         check.isTune(post, 0, 0, 2, 5, 0, 0, -1, 0, 1, 0, 2, 0, 0);
         post.tick(1);
@@ -255,7 +255,7 @@ public final class AnswersTest {
         }
     }
 
-    private static void areNotes(WhistlePosts post, boolean heard, String due) {
+    private static void areNotes(CountedPost post, boolean heard, String due) {
         for (int i = 0; i < due.length(); i++) {
             check.is("note " + i + " heard " + heard, post.note(0, i, heard), due.charAt(i) - '0');
         }
@@ -263,7 +263,7 @@ public final class AnswersTest {
 
     private static void note() {
         check.part("16 note");
-        WhistlePosts post = new WhistlePosts();
+        CountedPost post = new CountedPost();
         post.send(0, 1, 5670, false);
         areNotes(post, false, "5670");
         areNotes(post, true, "5670");
@@ -284,7 +284,7 @@ public final class AnswersTest {
 
     private static void waiting() {
         check.part("17 waiting");
-        WhistlePosts post = Check.loaded(Check.ROW);
+        CountedPost post = Check.loaded(Check.ROW);
         post.send(0, 1, 1, false);
         post.send(0, 3, 12345, false);
         post.send(1, 2, 12345, false);
@@ -311,7 +311,7 @@ public final class AnswersTest {
 
     private static void why() {
         check.part("18 why");
-        WhistlePosts post = Check.loaded("roof a 1 9 9 17;roof b 1 9 0 0;roof c 1 9 0 0;roof d 1 9 2 0;way a b 1;way b c 2;dusk 3;");
+        CountedPost post = Check.loaded("roof a 1 9 9 17;roof b 1 9 0 0;roof c 1 9 0 0;roof d 1 9 2 0;way a b 1;way b c 2;dusk 3;");
         post.send(0, 2, 12345, false);
         post.send(0, 2, 1234, false);
         post.send(0, 1, 123, false);
@@ -353,7 +353,7 @@ public final class AnswersTest {
 
     private static void whyAtDusk() {
         check.part("18 why, at dusk");
-        WhistlePosts post = Check.loaded(Check.PAIR);
+        CountedPost post = Check.loaded(Check.PAIR);
         post.tick(48);
         post.send(0, 1, 1, false);
         check.isWhy(post, 0, 0, 0);
@@ -368,7 +368,7 @@ public final class AnswersTest {
     /** The purse of c is enough for each of two tunes as it is, but in a tick a takes from it before b does. */
     private static void whyAsAllIs() {
         check.part("18 why, as all is");
-        WhistlePosts post = Check.loaded(Check.FORK);
+        CountedPost post = Check.loaded(Check.FORK);
         post.send(2, 3, 1, false);
         post.send(2, 4, 1, false);
         post.tick(3);
@@ -386,7 +386,7 @@ public final class AnswersTest {
 
     private static void costOf() {
         check.part("19 costOf");
-        WhistlePosts post = new WhistlePosts();
+        CountedPost post = new CountedPost();
         check.is("over mill, one bar", post.costOf(0, 3, 1), 1);
         check.is("four notes", post.costOf(0, 3, 4), 1);
         check.is("two bars", post.costOf(0, 3, 5), 2);
@@ -406,7 +406,7 @@ public final class AnswersTest {
 
     private static void wrongOn() {
         check.part("20 wrongOn");
-        WhistlePosts post = new WhistlePosts();
+        CountedPost post = new CountedPost();
         check.is("12 by 10", post.wrongOn(0, 1, 8), 1);
         check.is("12 less 6, by 10", post.wrongOn(1, 0, 8), 0);
         check.is("27 less 15, by 10; 9 less 3, by 10", post.wrongOn(0, 3, 8), 1);
@@ -431,7 +431,7 @@ public final class AnswersTest {
 
     private static void calmest() {
         check.part("21 calmest");
-        WhistlePosts post = Check.loaded("roof a 1 0 0 0;roof b 1 1 0 0;roof c 1 9 0 0;roof d 1 0 0 0;way a b 5;way b c 9;");
+        CountedPost post = Check.loaded("roof a 1 0 0 0;roof b 1 1 0 0;roof c 1 9 0 0;roof d 1 0 0 0;way a b 5;way b c 9;");
         check.is("10 less 3 is below 10, 15 less 3 is not", post.calmest(0, 1), 2);
         check.is("5 is below 10", post.calmest(1, 0), 1);
         check.is("36 less 27 is below 10", post.calmest(1, 2), 4);
@@ -442,13 +442,13 @@ public final class AnswersTest {
         post.set(8, 9);
         check.is("whatever the wind is", post.calmest(0, 1), 2);
         check.isThrownForRoofs("calmest", post::calmest);
-        WhistlePosts near = Check.loaded("roof a 1 0 0 0;roof b 1 0 0 0;way a b 1;");
+        CountedPost near = Check.loaded("roof a 1 0 0 0;roof b 1 0 0 0;way a b 1;");
         check.is("9 is below 10", near.calmest(0, 1), 9);
     }
 
     private static void arrivesIn() {
         check.part("22 arrivesIn");
-        WhistlePosts post = new WhistlePosts();
+        CountedPost post = new CountedPost();
         post.send(0, 3, 1234, true);
         // there at 16, but wrong, and anew from 16 on
         check.is("at the second try", post.arrivesIn(0), 31);
@@ -469,12 +469,12 @@ public final class AnswersTest {
 
     private static void arrivesLate() {
         check.part("22 arrivesIn, late or never");
-        WhistlePosts post = Check.loaded("roof a 1 9 1 1;roof b 1 9 0 0;roof c 1 9 0 0;way a b 1;dusk 60;");
+        CountedPost post = Check.loaded("roof a 1 9 1 1;roof b 1 9 0 0;roof c 1 9 0 0;way a b 1;dusk 60;");
         post.send(0, 1, 1, false);
         post.send(0, 2, 1, false);
         check.is("whistled at 1 until 2, there at 3", post.arrivesIn(0), 3);
         check.is("never", post.arrivesIn(1), WhistlePosts.NONE);
-        WhistlePosts last = Check.loaded(Check.PAIR);
+        CountedPost last = Check.loaded(Check.PAIR);
         for (int i = 0; i < 49; i++) {
             last.tick(200);
         }
@@ -483,7 +483,7 @@ public final class AnswersTest {
         check.is("beyond 9999", last.arrivesIn(0), 3);
         check.isThrown("no tick is left", Check.STATE, () -> last.tick(1));
         // eight notes by breath 1 are whistled at 1, 9, 17 and so on; each is there 16 ticks later
-        WhistlePosts slow = Check.loaded("roof a 1 9 0 0;roof b 1 9 0 0;way a b 8;dusk 60;");
+        CountedPost slow = Check.loaded("roof a 1 9 0 0;roof b 1 9 0 0;way a b 8;dusk 60;");
         for (int i = 0; i < 26; i++) {
             slow.send(0, 1, 12345670, false);
         }
@@ -499,7 +499,7 @@ public final class AnswersTest {
 
     private static void growsBy() {
         check.part("23 growsBy");
-        WhistlePosts post = new WhistlePosts();
+        CountedPost post = new CountedPost();
         post.send(0, 3, 1234, true);
         post.send(0, 1, 55555, false);
         post.give(1, 5);
@@ -532,7 +532,7 @@ public final class AnswersTest {
 
     private static void dearestWay() {
         check.part("24 dearestWay");
-        WhistlePosts post = new WhistlePosts();
+        CountedPost post = new CountedPost();
         check.is("that to inn", post.dearestWay(), 3);
         post.cut(2, 3);
         check.is("a ring: all alike", post.dearestWay(), 0);
@@ -541,23 +541,23 @@ public final class AnswersTest {
         post.cut(1, 2);
         post.cut(0, 2);
         check.is("no ways", post.dearestWay(), WhistlePosts.NONE);
-        WhistlePosts line = Check.loaded(Check.tenRoofs() + Check.ways(9));
+        CountedPost line = Check.loaded(Check.tenRoofs() + Check.ways(9));
         check.is("in the middle", line.dearestWay(), 4);
         line.cut(0, 1);
         check.is("of nine, 4 by 5 as 5 by 4", line.dearestWay(), 3);
         line.cut(4, 5);
         // b to e, and f to j: 2 by 2 without c to d, but 2 by 3 without g to h
         check.is("in the greater part", line.dearestWay(), 4);
-        WhistlePosts three = Check.loaded("roof a 1 0 0 0;roof b 1 0 0 0;roof c 1 0 0 0;way a b 1;way b c 1;");
+        CountedPost three = Check.loaded("roof a 1 0 0 0;roof b 1 0 0 0;roof c 1 0 0 0;way a b 1;way b c 1;");
         check.is("either parts 2 by 1", three.dearestWay(), 0);
-        WhistlePosts tail = Check.loaded("roof a 1 0 0 0;roof b 1 0 0 0;roof c 1 0 0 0;roof d 1 0 0 0;roof e 1 0 0 0;"
+        CountedPost tail = Check.loaded("roof a 1 0 0 0;roof b 1 0 0 0;roof c 1 0 0 0;roof d 1 0 0 0;roof e 1 0 0 0;"
             + "way a b 1;way a c 1;way b c 1;way d e 1;way c d 1;");
         check.is("c to d parts 3 by 2", tail.dearestWay(), 4);
     }
 
     private static void agree() {
         check.part("25 agree");
-        WhistlePosts post = new WhistlePosts();
+        CountedPost post = new CountedPost();
         check.is("at first", post.agree(), true);
         post.send(0, 3, 1234, true);
         post.send(1, 3, 12345670, true);
@@ -579,18 +579,18 @@ public final class AnswersTest {
 
     private static void meanPurse() {
         check.part("26 meanPurse");
-        WhistlePosts post = new WhistlePosts();
+        CountedPost post = new CountedPost();
         check.isExactly("99 by 4", post.meanPurse(), 24.75);
         post.give(1, 2);
         check.isExactly("101 by 4", post.meanPurse(), 25.25);
-        WhistlePosts three = Check.loaded("roof a 1 0 0 50;roof b 1 0 0 50;roof c 1 0 0 0;");
+        CountedPost three = Check.loaded("roof a 1 0 0 50;roof b 1 0 0 50;roof c 1 0 0 0;");
         check.isExactly("100 by 3", three.meanPurse(), 100.0 / 3.0);
         check.isExactly("0", Check.loaded("roof a 1 0 0 0;roof b 1 0 0 0;").meanPurse(), 0.0);
     }
 
     private static void rightPart() {
         check.part("27 rightPart");
-        WhistlePosts post = Check.loaded("roof a 8 0 0 0;roof b 8 9 0 0;way a b 4;again 0;");
+        CountedPost post = Check.loaded("roof a 8 0 0 0;roof b 8 9 0 0;way a b 4;again 0;");
         check.isExactly("none arrived", post.rightPart(), 0.0f);
         post.send(0, 1, 1, false);
         check.isExactly("still none", post.rightPart(), 0.0f);
@@ -605,14 +605,14 @@ public final class AnswersTest {
         check.isExactly("two of four", post.rightPart(), 0.5f);
     }
 
-    private static void isPrinted(WhistlePosts post, String due) {
+    private static void isPrinted(CountedPost post, String due) {
         check.is("bytes", post.printRoofs(), due.length());
         check.isText("printRoofs", Check.output(post), due);
     }
 
     private static void printRoofs() {
         check.part("34 printRoofs");
-        WhistlePosts post = new WhistlePosts();
+        CountedPost post = new CountedPost();
         isPrinted(post, "tower:30 barn:20 mill:9 inn:40");
         post.send(0, 3, 12345, false);
         post.send(0, 1, 1, false);
@@ -624,7 +624,7 @@ public final class AnswersTest {
         check.isText("in place of what it had", Check.output(post), "1>barn");
         isPrinted(post, "tower:30!/2 barn:20 mill:9 inn:40!");
         check.is("is no change", post.count(13), 5);
-        WhistlePosts great = Check.loaded("roof a 1 0 0 0;roof abcdef 1 0 0 999;");
+        CountedPost great = Check.loaded("roof a 1 0 0 0;roof abcdef 1 0 0 999;");
         for (int i = 0; i < 10; i++) {
             great.send(0, 1, 1, false);
         }
@@ -635,7 +635,7 @@ public final class AnswersTest {
 
     private static void printTune() {
         check.part("35 printTune");
-        WhistlePosts post = new WhistlePosts();
+        CountedPost post = new CountedPost();
         post.set(10, 0);
         post.send(0, 1, 1277, false);
         check.is("bytes", post.printTune(0), 9);
@@ -656,7 +656,7 @@ public final class AnswersTest {
 
     private static void outputByte() {
         check.part("36 outputByte");
-        WhistlePosts post = Check.loaded(Check.PAIR);
+        CountedPost post = Check.loaded(Check.PAIR);
         check.is("nothing yet", post.outputByte(0), -1);
         post.printRoofs();
         String due = "a:10 b:20";

@@ -1,4 +1,5 @@
 import java.util.NoSuchElementException;
+import java.util.Set;
 
 /** Counts and prints what is not as it is due, and feeds texts to a post. */
 final class Check {
@@ -84,51 +85,75 @@ final class Check {
         }
     }
 
-    void isRoof(WhistlePosts post, int roof, String name, int... numbers) {
+    void isRoof(CountedPost post, int roof, String name, int... numbers) {
         isText("name of roof " + roof, name(post, roof), name);
         for (int what = 0; what < numbers.length; what++) {
             is("roof(" + roof + ", " + what + ")", post.roof(roof, what), numbers[what]);
         }
     }
 
-    void isWay(WhistlePosts post, int way, int one, int other, int far) {
+    void isWay(CountedPost post, int way, int one, int other, int far) {
         is("way(" + way + ", 0)", post.way(way, 0), one);
         is("way(" + way + ", 1)", post.way(way, 1), other);
         is("way(" + way + ", 2)", post.way(way, 2), far);
     }
 
-    void areCounts(WhistlePosts post, int... numbers) {
+    void areCounts(CountedPost post, int... numbers) {
         for (int what = 0; what < numbers.length; what++) {
             is("count(" + what + ")", post.count(what), numbers[what]);
         }
     }
 
-    void areAccounts(WhistlePosts post, int... numbers) {
+    void areAccounts(CountedPost post, int... numbers) {
         for (int what = 0; what < numbers.length; what++) {
             is("account(" + what + ")", post.account(what), numbers[what]);
         }
     }
 
-    void isTune(WhistlePosts post, int tune, int... numbers) {
+    void isTune(CountedPost post, int tune, int... numbers) {
         for (int what = 0; what < numbers.length; what++) {
             is("tune(" + tune + ", " + what + ")", post.tune(tune, what), numbers[what]);
         }
     }
 
-    void isHeard(WhistlePosts post, int tune, String due) {
+    void isHeard(CountedPost post, int tune, String due) {
         post.printTune(tune);
         isText("printTune(" + tune + ")", output(post), due);
     }
 
-    void isWhy(WhistlePosts post, int tune, int reason, int cause) {
+    void isWhy(CountedPost post, int tune, int reason, int cause) {
         is("why(" + tune + ", 0)", post.why(tune, 0), reason);
         is("why(" + tune + ", 1)", post.why(tune, 1), cause);
     }
 
-    void isErrorOf(WhistlePosts post, String what, String text, boolean isSetup, int code, int offset) {
+    void isErrorOf(CountedPost post, String what, String text, boolean isSetup, int code, int offset) {
         is(what + " loads or plays", isSetup ? load(post, text) : play(post, text), -1);
         is(what + ": errorCode", post.errorCode(), code);
         is(what + ": errorOffset", post.errorOffset(), offset);
+    }
+
+    /** The call is made on a post in full swing, must throw exactly this class, and change nothing. */
+    void isRefused(String what, Class<? extends RuntimeException> due, Twins.Treatment call) {
+        CountedPost post = new CountedPost();
+        lively(post);
+        isThrown(what, due, () -> call.on(post));
+        isIdle(what, other -> thrownBy(() -> call.on(other)));
+    }
+
+    /** The call changes nothing of a post in full swing. */
+    void isIdle(String what, Twins.Treatment call) {
+        isIdle(what, Twins.ALL, call);
+    }
+
+    void isIdle(String what, Set<Twins.Part> parts, Twins.Treatment call) {
+        Twins.areAlike(this, what + " changes nothing", parts, Check::lively, post -> {
+            lively(post);
+            call.on(post);
+        });
+    }
+
+    int answers() {
+        return asDue + wrong;
     }
 
     void complain(String text) {
@@ -146,7 +171,7 @@ final class Check {
     }
 
     /** Puts a text behind what the input buffer holds, which is nothing in all tests that use this. */
-    static void feed(WhistlePosts post, String text) {
+    static void feed(CountedPost post, String text) {
         int length = 0;
         for (int from = 0; from < text.length(); from += 20) {
             int[] words = new int[5];
@@ -161,7 +186,48 @@ final class Check {
         }
     }
 
-    static int appendBlanks(WhistlePosts post) {
+    /**
+     * Four roofs, one of them alone, and two ways; five tunes: one ARRIVED, one is LOST, two are in the AIR, and the
+     * last one waits. There are 8 changes, a saved state of three tunes, an output, an error, and 7 bytes of input.
+     */
+    static void lively(CountedPost post) {
+        load(post, "roof ann 2 0 1 50;roof bob 1 0 2 50;roof cid 1 9 3 50;roof dot 8 9 0 7;"
+            + "way ann bob 4;way bob cid 2;dusk 59;");
+        post.send(1, 2, 12, true);
+        post.send(0, 3, 5, false);
+        post.tick(5);
+        post.saveState();
+        post.send(0, 2, 1234567, false);
+        post.send(0, 1, 55555, false);
+        post.give(3, 2);
+        post.set(10, 3);
+        post.tick(1);
+        post.printRoofs();
+        post.arrivesIn(3);
+        post.growsBy(0, 1);
+        play(post, "tick 0");
+        feed(post, "wind 1;");
+    }
+
+    static int[] outside(int least, int most) {
+        return new int[] {least - 1, most + 1, MIN, MAX};
+    }
+
+    /** The input stays as it is: what is appended for an answer is cut off again. */
+    static int lengthOfInput(CountedPost post) {
+        int longer = appendBlanks(post);
+        if (longer >= 0) {
+            post.truncateInput(longer - 20);
+            return longer - 20;
+        }
+        int length = 800;
+        while (!post.truncateInput(length)) {
+            length--;
+        }
+        return length;
+    }
+
+    static int appendBlanks(CountedPost post) {
         return post.appendInput(0x20202020, 0x20202020, 0x20202020, 0x20202020, 0x20202020);
     }
 
@@ -186,36 +252,36 @@ final class Check {
         return text.toString();
     }
 
-    static int load(WhistlePosts post, String text) {
+    static int load(CountedPost post, String text) {
         feed(post, text);
         return post.loadPost();
     }
 
-    static int play(WhistlePosts post, String text) {
+    static int play(CountedPost post, String text) {
         feed(post, text);
         return post.playScript();
     }
 
-    static WhistlePosts loaded(String text) {
-        WhistlePosts post = new WhistlePosts();
+    static CountedPost loaded(String text) {
+        CountedPost post = new CountedPost();
         if (load(post, text) < 0) {
             throw new IllegalArgumentException("error " + post.errorCode() + " at " + post.errorOffset() + " in " + text);
         }
         return post;
     }
 
-    static String output(WhistlePosts post) {
+    static String output(CountedPost post) {
         StringBuilder text = new StringBuilder();
-        for (int i = 0; post.outputByte(i) != -1; i++) {
-            text.append((char) post.outputByte(i));
+        for (int sign = post.outputByte(0); sign != -1; sign = post.outputByte(text.length())) {
+            text.append((char) sign);
         }
         return text.toString();
     }
 
-    static String name(WhistlePosts post, int roof) {
+    static String name(CountedPost post, int roof) {
         StringBuilder text = new StringBuilder();
-        for (int i = 0; post.nameByte(roof, i) != -1; i++) {
-            text.append((char) post.nameByte(roof, i));
+        for (int sign = post.nameByte(roof, 0); sign != -1; sign = post.nameByte(roof, text.length())) {
+            text.append((char) sign);
         }
         return text.toString();
     }

@@ -42,7 +42,7 @@ public final class TextsTest {
 
     private static void newObject() {
         check.part("1 a new object");
-        WhistlePosts post = new WhistlePosts();
+        CountedPost post = new CountedPost();
         check.areCounts(post, 4, 4, 0, 0, 0, 0, 0, 0, 3, 50, 1, 0, 99, 0);
         check.areAccounts(post, 0, 0, 0, 0, 0, 0, 0, 0, 0, 0, 0);
         check.isRoof(post, 0, "tower", 4, 2, 1, 30, 0, 0, 2, 0);
@@ -64,7 +64,7 @@ public final class TextsTest {
 
     private static void appendInput() {
         check.part("2 appendInput");
-        WhistlePosts post = new WhistlePosts();
+        CountedPost post = new CountedPost();
         // "roof a 1 0 0 7;roof b 1 0 0 8;" and ten blanks
         check.is("first 20", post.appendInput(0x726f6f66, 0x20612031, 0x20302030, 0x20373b72, 0x6f6f6620), 20);
         check.is("next 20", post.appendInput(0x62203120, 0x30203020, 0x383b2020, 0x20202020, 0x20202020), 40);
@@ -87,7 +87,7 @@ public final class TextsTest {
 
     private static void inputIsNoPartOfTheState() {
         check.part("2 appendInput, the buffer alone");
-        WhistlePosts post = Check.loaded(Check.PAIR);
+        CountedPost post = Check.loaded(Check.PAIR);
         check.is("bytes above 127", post.appendInput(0x20ff2020, -1, -1, -1, -1), 20);
         check.is("load of them", post.loadPost(), -1);
         check.is("code", post.errorCode(), WhistlePosts.SYNTAX);
@@ -105,7 +105,7 @@ public final class TextsTest {
 
     private static void truncateInput() {
         check.part("3 truncateInput");
-        WhistlePosts post = new WhistlePosts();
+        CountedPost post = new CountedPost();
         check.is("to 0 when empty", post.truncateInput(0), true);
         check.is("to 1 when empty", post.truncateInput(1), false);
         Check.appendBlanks(post);
@@ -125,7 +125,7 @@ public final class TextsTest {
 
     private static void loadPost() {
         check.part("4 loadPost");
-        WhistlePosts post = new WhistlePosts();
+        CountedPost post = new CountedPost();
         post.send(0, 3, 1234, true);
         post.tick(1);
         post.saveState();
@@ -148,7 +148,7 @@ public final class TextsTest {
 
     private static void settingsBeginAnew() {
         check.part("4 loadPost, settings and tokens");
-        WhistlePosts post = Check.loaded(Check.PAIR + "wind 1;dusk 1;again 3;");
+        CountedPost post = Check.loaded(Check.PAIR + "wind 1;dusk 1;again 3;");
         check.is("without settings", Check.load(post, Check.PAIR), 1);
         check.areCounts(post, 2, 1, 0, 0, 0, 0, 0, 0, 3, 50, 1);
         check.is("few blanks", Check.load(post, "roof a8 9 0 10;roof b 8 9 0 20;way a b1;wind0;dusk 60;"), 1);
@@ -164,7 +164,7 @@ public final class TextsTest {
         check.part("4 loadPost, the most");
         String roofs = Check.tenRoofs();
         String text = roofs + Check.ways(20);
-        WhistlePosts post = new WhistlePosts();
+        CountedPost post = new CountedPost();
         check.is("ten roofs and twenty ways", Check.load(post, text), 20);
         check.is("roofs", post.count(0), 10);
         isError("21st way", roofs + Check.ways(21), WhistlePosts.TOO_MANY, text.length());
@@ -176,7 +176,7 @@ public final class TextsTest {
 
     private static void nobodyIsBusy() {
         check.part("4 loadPost, nobody is busy");
-        WhistlePosts post = Check.loaded("roof a 1 0 0 0;roof b 1 0 0 0;way a b 1;");
+        CountedPost post = Check.loaded("roof a 1 0 0 0;roof b 1 0 0 0;way a b 1;");
         post.send(0, 1, 12345670, false);
         post.tick(1);
         check.is("busy", post.count(11), 1);
@@ -189,7 +189,7 @@ public final class TextsTest {
     /** What would come was worked out for a post with tunes, before another one is loaded. */
     private static void nothingIsLeft() {
         check.part("4 loadPost, nothing is left");
-        WhistlePosts post = new WhistlePosts();
+        CountedPost post = new CountedPost();
         post.send(3, 0, 12345670, true);
         post.send(0, 3, 1234, true);
         post.set(8, 9);
@@ -208,7 +208,7 @@ public final class TextsTest {
     }
 
     private static void isError(String what, String text, int code, int offset) {
-        check.isErrorOf(new WhistlePosts(), what, text, true, code, offset);
+        check.isErrorOf(new CountedPost(), what, text, true, code, offset);
     }
 
     private static void setupErrors() {
@@ -268,7 +268,7 @@ public final class TextsTest {
 
     private static void failedLoad() {
         check.part("4 loadPost, an error changes nothing");
-        WhistlePosts post = new WhistlePosts();
+        CountedPost post = new CountedPost();
         post.send(0, 1, 1, false);
         check.isErrorOf(post, "a load", "roof a 1 0 0 0;wind 9;roof b 1 0 0 0;way a b", true, WhistlePosts.SYNTAX, 44);
         check.areCounts(post, 4, 4, 1, 1, 0, 0, 0, 0, 3, 50, 1, 0, 99, 1);
@@ -278,7 +278,7 @@ public final class TextsTest {
 
     private static void playScript() {
         check.part("5 playScript");
-        WhistlePosts post = Check.loaded(Check.PAIR + "again 0;");
+        CountedPost post = Check.loaded(Check.PAIR + "again 0;");
         String script = "wind 9;send a b 1 2 3;ask b a 7 ;tick 3;give b 99;dusk 1;again 3;cut b a;";
         check.is("all", Check.play(post, script), 8);
         check.areCounts(post, 2, 0, 3, 0, 1, 2, 0, 3, 9, 1, 3, 1, 129, 1);
@@ -301,7 +301,7 @@ public final class TextsTest {
 
     private static void playUntilThrown() {
         check.part("5 playScript, until a method would throw");
-        WhistlePosts post = Check.loaded(Check.PAIR);
+        CountedPost post = Check.loaded(Check.PAIR);
         check.is("cut twice", Check.play(post, "wind 5;cut a b;cut b a;wind 6;"), 2);
         check.is("wind", post.count(8), 5);
         check.is("no error", post.errorCode(), 0);
@@ -338,7 +338,7 @@ public final class TextsTest {
         for (int i = 0; i < 30; i++) {
             thirty.append("wind ").append(i % 10).append(";");
         }
-        WhistlePosts post = Check.loaded(Check.PAIR);
+        CountedPost post = Check.loaded(Check.PAIR);
         check.is("30 statements", Check.play(post, thirty.toString()), 30);
         check.is("wind", post.count(8), 9);
         check.isErrorOf(post, "31 statements", thirty + " tick", false, WhistlePosts.TOO_MANY, 211);
@@ -354,7 +354,7 @@ public final class TextsTest {
     }
 
     private static void isScriptError(String what, String text, int code, int offset) {
-        WhistlePosts post = Check.loaded(Check.PAIR + "roof c 1 0 0 0;");
+        CountedPost post = Check.loaded(Check.PAIR + "roof c 1 0 0 0;");
         check.isErrorOf(post, what, text, false, code, offset);
         check.areCounts(post, 3, 1, 0, 0, 0, 0, 0, 0, 3, 50, 1, 0, 30, 0);
     }
@@ -407,14 +407,14 @@ public final class TextsTest {
     }
 
     private static void isNoWord(String word) {
-        WhistlePosts post = Check.loaded(Check.PAIR);
+        CountedPost post = Check.loaded(Check.PAIR);
         check.isErrorOf(post, word, word + " a b 1;", true, WhistlePosts.SYNTAX, 0);
         check.isErrorOf(post, word, word + " a b 1;", false, WhistlePosts.SYNTAX, 0);
     }
 
     private static void errors() {
         check.part("6, 7 errorCode, errorOffset");
-        WhistlePosts post = new WhistlePosts();
+        CountedPost post = new CountedPost();
         check.isErrorOf(post, "a load", "roof a 1 x", true, WhistlePosts.SYNTAX, 9);
         Check.appendBlanks(post);
         post.truncateInput(0);
