@@ -31,7 +31,7 @@ public final class AnswerEdgesTest {
     private static void promises8To10() {
         edges.of(8, WHAT_OUT, () -> whatIsOut(0, 13, CountedPost::count));
         edges.of(8, "2 TUNES, 3 to 6 those with the STATES 0 to 3", AnswerEdgesTest::p8States);
-        edges.of(8, "7 TIME", AnswerEdgesTest::p8Time);
+        edges.of(8, "TIME is 0 at first, 9999 at most", AnswerEdgesTest::p8Time);
         edges.of(8, "11 whistlers that are BUSY now", AnswerEdgesTest::p8Busy);
         edges.of(8, "12 all PURSES together", AnswerEdgesTest::p8Purses);
         edges.of(8, "13 changes that can be undone", AnswerEdgesTest::p8Changes);
@@ -149,6 +149,7 @@ public final class AnswerEdgesTest {
         edges.of(34, "an exclamation mark (byte 33) if its whistler is BUSY", AnswerEdgesTest::p34Busy);
         edges.of(34, "and, if TUNES wait there, a slash (byte 47) and how many", AnswerEdgesTest::p34Waiting);
         edges.of(34, "a colon (byte 58) and PURSE", AnswerEdgesTest::p34Purse);
+        edges.of(34, "in place of what it had", AnswerEdgesTest::p34InPlace);
         edges.of(34, "with a space (byte 32) between two", AnswerEdgesTest::p34Between);
         edges.of(34, "Returns the number of bytes", AnswerEdgesTest::p34Longest);
         edges.of(35, NO_TUNE, () -> tuneIsOut((post, tune) -> post.printTune(tune)));
@@ -1289,6 +1290,20 @@ public final class AnswerEdgesTest {
             }
             isPrinted(Check.loaded(text.toString()), due.toString());
         }
+    }
+
+    private static void p34InPlace() {
+        CountedPost post = Check.loaded("roof a 1 0 0 10;roof b 8 0 0 0;way b a 1;wind 0;");
+        post.send(1, 0, 0, false);
+        check.isHeard(post, 0, "0>a");
+        isPrinted(post, "a:10 b:0/1");
+        isPrinted(post, "a:10 b:0/1");
+        post.tick(1);
+        isPrinted(post, "a:10 b:0!");
+        check.is("nothing is left of a longer one", post.outputByte(9), -1);
+        post.tick(1);
+        isPrinted(post, "a:10 b:0");
+        check.is("nor of this one", post.outputByte(8), -1);
     }
 
     private static void p34Longest() {

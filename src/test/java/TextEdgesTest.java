@@ -56,6 +56,7 @@ public final class TextEdgesTest {
         edges.of(4, "NAME_ERROR: a NAME behind roof that a ROOF has already", TextEdgesTest::p4NameAgain);
         edges.of(4, "another NAME that no ROOF has (as the text is read so far)", TextEdgesTest::p4NoSuchName);
         edges.of(4, "the second P of a statement that is the first one", TextEdgesTest::p4SameRoof);
+        edges.of(4, "each between two unlike ROOFS (at most one between any two)", TextEdgesTest::p4OneWayBetween);
         edges.of(4, "REPEATED: the second P of a way between two ROOFS that have one already", TextEdgesTest::p4Repeated);
         edges.of(4, "a BREATH (1 to 8)", () -> sweepSetup("roof a % 0 0 0;roof b 1 0 0 0;", 1, 8, p -> p.roof(0, 0)));
         edges.of(4, "an EAR (0 to 9)", () -> sweepSetup("roof a 1 % 0 0;roof b 1 0 0 0;", 0, 9, p -> p.roof(0, 1)));
@@ -108,6 +109,10 @@ public final class TextEdgesTest {
         edges.of(5, "Each statement is followed by a semicolon", TextEdgesTest::p5Semicolon);
         edges.of(4, "the end of the text where more is required", TextEdgesTest::p4Prefixes);
         edges.of(5, "the end of the text where more is required", TextEdgesTest::p5Prefixes);
+        edges.of(4, "a byte that belongs to no token", TextEdgesTest::p4Strays);
+        edges.of(5, "a byte that belongs to no token", TextEdgesTest::p5Strays);
+        edges.of(4, "one that is too long", TextEdgesTest::p4TooLong);
+        edges.of(5, "one that is too long", TextEdgesTest::p5TooLong);
         edges.of(4, "SYNTAX: a token that cannot stand at its place", TextEdgesTest::p4WrongTokens);
         edges.of(5, "SYNTAX: a token that cannot stand at its place", TextEdgesTest::p5WrongTokens);
         edges.of(4, "the first error met is reported, with an offset in bytes from 0", TextEdgesTest::p4FirstError);
@@ -124,6 +129,7 @@ public final class TextEdgesTest {
         edges.of(7, CHANGES, () -> check.isIdle("errorOffset", CountedPost::errorOffset));
         edges.of(7, "-1 if errorCode() is NO_ERROR", TextEdgesTest::p7NoError);
         edges.of(7, "Returns the offset", TextEdgesTest::p7FirstAndLast);
+        edges.of(7, "The offset is that of the first byte of the token, or the length of the text", TextEdgesTest::p7FirstByte);
         edges.of(7, "Returns the offset of the error of the latest call of loadPost or playScript", TextEdgesTest::p7Latest);
     }
 
@@ -462,6 +468,24 @@ public final class TextEdgesTest {
         isError(TWO + "way b b 1;", WhistlePosts.NAME_ERROR, 36);
         isError(TWO + "way b b", WhistlePosts.NAME_ERROR, 36);
         isLoaded(TWO + "way b a 1;", 1);
+    }
+
+    /** Each pair among five roofs: once it is taken, to the same roof or told again it is not. */
+    private static void p4OneWayBetween() {
+        String five = roofs(5);
+        for (char one = 'a'; one <= 'e'; one++) {
+            for (char other = 'a'; other <= 'e'; other++) {
+                String way = "way " + one + " " + other + " 1;";
+                if (one == other) {
+                    isError(five + way, WhistlePosts.NAME_ERROR, five.length() + 6);
+                } else {
+                    isLoaded(five + way, 1);
+                    isError(five + way + way, WhistlePosts.REPEATED, five.length() + way.length() + 6);
+                    isError(five + way + "way " + other + " " + one, WhistlePosts.REPEATED, five.length() + way.length() + 6);
+                }
+            }
+        }
+        isLoaded(five + "way a b 1;way a c 1;way a d 1;way a e 1;way b c 1;way b d 1;way b e 1;way c d 1;way c e 1;way d e 1;", 10);
     }
 
     private static void p4Repeated() {
@@ -986,6 +1010,56 @@ public final class TextEdgesTest {
         }
     }
 
+    private static boolean isOfNoToken(char sign) {
+        return !isBlank(sign) && sign != ';' && (sign < 'a' || sign > 'z') && (sign < '0' || sign > '9');
+    }
+
+    /** Each byte of no token behind each byte of a right text: there, and at no other place, is the first error. */
+    private static void p4Strays() {
+        String text = "roof a 1 0 0 0;roof b 1 0 0 0;way a b 1;";
+        for (int place : new int[] {0, 4, 5, 6, 7, 8, 13, 14, 15, 19, 30, 33, 34, 36, 38, 39, 40}) {
+            for (char sign = 0; sign < 256; sign++) {
+                if (isOfNoToken(sign)) {
+                    isError(text.substring(0, place) + sign + text.substring(place), WhistlePosts.SYNTAX, place);
+                }
+            }
+        }
+    }
+
+    private static void p5Strays() {
+        String script = "send a b 1 2;tick 9;";
+        for (int place : new int[] {0, 4, 5, 6, 7, 8, 9, 10, 11, 12, 13, 17, 18, 19, 20}) {
+            for (char sign = 0; sign < 256; sign++) {
+                if (isOfNoToken(sign)) {
+                    isScriptError(script.substring(0, place) + sign + script.substring(place), WhistlePosts.SYNTAX, place);
+                }
+            }
+        }
+    }
+
+    /** Too long is wrong also where the beginning alone would be right. */
+    private static void p4TooLong() {
+        isError("roofroofro a 1 0 0 0;", WhistlePosts.SYNTAX, 0);
+        isError("roof aaaaaa 1 0 0 0;roof b 1 0 0 0;way aaaaaaa b 1;", WhistlePosts.SYNTAX, 39);
+        isError("roof aaaaaa 1 0 0 0;roof b 1 0 0 0;way b aaaaaaaaa 1;", WhistlePosts.SYNTAX, 41);
+        isLoaded("roof aaaaaa 1 0 0 0;roof b 1 0 0 0;way b aaaaaa 1;", 1);
+        isError("roof a 1 0 0 0999;", WhistlePosts.SYNTAX, 13);
+        isError("roof a 1 0 0 9990;", WhistlePosts.SYNTAX, 13);
+        isLoaded("roof a 1 0 0 999;roof b 1 0 0 099;", 0);
+        isError(TWO + "dusk 0060;", WhistlePosts.SYNTAX, 35);
+        isLoaded(TWO + "dusk 060;", 0);
+    }
+
+    private static void p5TooLong() {
+        isScriptError("ticktickt 1;", WhistlePosts.SYNTAX, 0);
+        isScriptError("give aaaaaaa 1;", WhistlePosts.SYNTAX, 5);
+        isScriptError("give aaaaaaaaa 1;", WhistlePosts.SYNTAX, 5);
+        isScriptError("tick 0200;", WhistlePosts.SYNTAX, 5);
+        isScriptError("tick 2000;", WhistlePosts.SYNTAX, 5);
+        isScriptError("send a b 0007;", WhistlePosts.SYNTAX, 9);
+        isPlayed("tick 200;send a b 007;give a 099;", 3);
+    }
+
     private static void p4WrongTokens() {
         areWrongTokens(true, "", "roof x 1 0 0 0 ;", "kniiiis");
         areWrongTokens(true, TWO, "roof x 1 0 0 0 ;", "kniiiis");
@@ -1172,6 +1246,21 @@ public final class TextEdgesTest {
         isScriptError(" ".repeat(799) + "9", WhistlePosts.SYNTAX, 799);
         isScriptError("tick" + " ".repeat(796), WhistlePosts.SYNTAX, 800);
         isScriptError("#", WhistlePosts.SYNTAX, 0);
+    }
+
+    private static void p7FirstByte() {
+        isError("roof abcdef 1 0 0 0;roof ghijkl 1 0 0 0;roof ghijkl", WhistlePosts.NAME_ERROR, 45);
+        isError("roof abcdef 1 0 0 0;roof ghijkl 1 0 0 0;way abcdef ghijkk 1;", WhistlePosts.NAME_ERROR, 51);
+        isError(TWO + "way a b 1;\n way   b   a", WhistlePosts.REPEATED, 52);
+        isError("dusk   061;", WhistlePosts.OUT_OF_RANGE, 7);
+        isError("dusk\n\n1000;", WhistlePosts.SYNTAX, 6);
+        isError("  again again;", WhistlePosts.SYNTAX, 8);
+        isError(roofs(10) + "\n\nroof", WhistlePosts.TOO_MANY, 152);
+        isError(A + " \n", WhistlePosts.TOO_FEW, 17);
+        isError("again \n", WhistlePosts.SYNTAX, 7);
+        isScriptError("send a   b   1 2 3 4 5 6 7 0   001;", WhistlePosts.TOO_MANY, 31);
+        isScriptError("tick   201;", WhistlePosts.OUT_OF_RANGE, 7);
+        isScriptError("give   tower 1;", WhistlePosts.NAME_ERROR, 7);
     }
 
     private static void p7Latest() {
